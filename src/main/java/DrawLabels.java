@@ -517,6 +517,12 @@ public final class DrawLabels {
         return step <= 0 ? least : -Math.floorDiv(-least, step) * step;
     }
 
+    /** How many multiples of a step are not outside of least .. most. */
+    private static int multiplesWithin(int least, int most, int step) {
+        int first = multipleFrom(least, step);
+        return step <= 0 || first > most ? 0 : (most - first) / step + 1;
+    }
+
     /** In which eighth of a turn a way lies; one that parts two eighths is in the later one. */
     private static int octant(int dx, int dy) {
         if (dy >= 0 && dx > 0) {
@@ -805,7 +811,7 @@ public final class DrawLabels {
             return rounded(aboveY(n, d), below(d));
         }
 
-        /** A length told by its square, on the sheet: half of the rounded-down double, a half up, is exact without a root. */
+        /** A length told by its square, on the sheet. The whole part of its double tells which way its half goes: no root is cut short. */
         int sheetLength(long square) {
             if (down <= 0) {
                 return 0;
@@ -1322,10 +1328,7 @@ public final class DrawLabels {
         private void paintGridWay(int least, int most, boolean upright) {
             int step = frame.gridStep;
             int first = multipleFrom(least, step);
-            if (step <= 0 || first > most) {
-                return;
-            }
-            int strokes = (most - first) / step + 1;
+            int strokes = multiplesWithin(least, most, step);
             int kept = Math.min(strokes, Marks.MOST - marks.size);
             for (int i = 0; i < kept; i++) {
                 paintGridStroke(first + i * step, upright);
@@ -1353,23 +1356,50 @@ public final class DrawLabels {
 
         private void paintArea(int o) {
             takeCorners(o);
-            int least = Frame.FARTHEST;
-            int most = -Frame.FARTHEST;
-            long sumX = 0;
-            long sumY = 0;
+            anchorArea(o);
+            int least = cornerY[0];
+            int most = cornerY[0];
+            boolean isUncut = true;
             for (int k = 0; k < corners; k++) {
                 least = Math.min(least, cornerY[k]);
                 most = Math.max(most, cornerY[k]);
-                sumX += frame.sheetX(cornerX[k], 1);
-                sumY += frame.sheetY(cornerY[k], 1);
+                isUncut &= isWithin(cornerX[k], frame.left, frame.right);
             }
-            anchor(o, roundedDown(sumX, corners), roundedDown(sumY, corners));
             int step = frame.hatchStep;
             int end = Math.min(most, frame.top);
             int y = multipleFrom(Math.max(least, frame.bottom), step);
             for (; step > 0 && y <= end; y += step) {
+                if (isUncut && marks.isFull()) {
+                    marks.lose(hatchStrokes(y, end));
+                    return;
+                }
                 paintHatch(y, figures.styleOf(o));
             }
+        }
+
+        private void anchorArea(int o) {
+            long sumX = 0;
+            long sumY = 0;
+            for (int k = 0; k < corners; k++) {
+                sumX += frame.sheetX(cornerX[k], 1);
+                sumY += frame.sheetY(cornerY[k], 1);
+            }
+            anchor(o, roundedDown(sumX, corners), roundedDown(sumY, corners));
+        }
+
+        /**
+         * How many strokes an area has from one hatch line to another, if none of it is beyond the window's left and
+         * right: half of the meetings of its sides. A thousand lost lines are not worth going through one by one.
+         */
+        private int hatchStrokes(int from, int to) {
+            int sum = 0;
+            for (int k = 0; k < corners; k++) {
+                int next = k + 1 < corners ? k + 1 : 0;
+                int least = Math.max(from, Math.min(cornerY[k], cornerY[next]));
+                int most = Math.min(to, Math.max(cornerY[k], cornerY[next]) - 1);
+                sum += multiplesWithin(least, most, frame.hatchStep);
+            }
+            return sum / 2;
         }
 
         private void takeCorners(int o) {
@@ -1436,7 +1466,7 @@ public final class DrawLabels {
 
         void paintOthers() {
             for (int o = 0; o < figures.size; o++) {
-                if (figures.isDrawn(o)) {
+                if (figures.kindOf(o) != Figures.AREA && figures.isDrawn(o)) {
                     paintOther(o);
                 }
             }
