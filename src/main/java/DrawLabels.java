@@ -1847,11 +1847,21 @@ public final class DrawLabels {
                 leastCostFrom[i] = leastCostFrom[i + 1] + (least == NOT_OPEN ? 0 : least);
                 leastOutFrom[i] = leastOutFrom[i + 1] + (least == NOT_OPEN ? 1 : 0);
             }
-            bestOut = size + 1;
-            bestCost = 0;
+            boundByRounds();
             search(0, 0, 0);
             for (int i = 0; i < size; i++) {
                 chosen[i] = best[i];
+            }
+        }
+
+        /** What rounds would find is allowed, so the best is not worse: the search looks for less than 1 above that. */
+        private void boundByRounds() {
+            goRounds();
+            bestOut = 0;
+            bestCost = 1;
+            for (int i = 0; i < size; i++) {
+                bestOut += chosen[i] == OUT ? 1 : 0;
+                bestCost += chosen[i] == OUT ? 0 : costOf(i, chosen[i]);
             }
         }
 

@@ -8,12 +8,14 @@ public final class DrawingTest {
         straightOnes();
         cutsAsFractions();
         circles();
+        circlesBesideEachSide();
         radiusRounded();
         angles();
         octants();
         ticks();
         areas();
         areaOverlap();
+        areaOfTwelve();
         order();
         noScale();
         lostMarks();
@@ -155,6 +157,35 @@ public final class DrawingTest {
         Due.due("all around the window", drawn(f), "C 13 100 125 1 0\n");
     }
 
+    private static void circlesBesideEachSide() {
+        int[][] at = {{110, 350}, {190, 350}, {150, 310}, {150, 390}};
+        int[][] place = {{10, 50}, {90, 50}, {50, 90}, {50, 10}};
+        for (int k = 0; k < 4; k++) {
+            DrawLabels d = new DrawLabels();
+            d.window(100, 200, 300, 400);
+            d.point(at[k][0], at[k][1]);
+            d.point(at[k][0] + 6, at[k][1] + 8);
+            d.point(at[k][0] + 11, at[k][1]);
+            d.object(4, 0, 1, 0);
+            d.object(4, 0, 2, 0);
+            String head = "C " + place[k][0] + " " + place[k][1];
+            Due.due("beside side " + k, drawn(d), head + " 10 0 0\n" + head + " 11 1 0\n");
+        }
+        int[][] outside = {{90, 350}, {210, 350}, {150, 290}, {150, 410}};
+        for (int[] o : outside) {
+            DrawLabels d = new DrawLabels();
+            d.window(100, 200, 300, 400);
+            d.point(o[0], o[1]);
+            d.point(o[0] + 6, o[1] + 8);
+            d.point(o[0] + 9, o[1]);
+            d.object(4, 0, 1, 0);
+            d.object(4, 0, 2, 0);
+            d.draw();
+            Due.due("it touches a side from outside, or not", d.count(6), 2);
+            Due.due("part", d.mark(1, 4), 1);
+        }
+    }
+
     private static void radiusRounded() {
         DrawLabels d = new DrawLabels();
         d.window(0, 200, 0, 200);
@@ -280,6 +311,18 @@ public final class DrawingTest {
             + "S 0 80 20 80 0\nS 60 80 80 80 0\nS 30 70 50 70 0\n");
     }
 
+    private static void areaOfTwelve() {
+        DrawLabels d = new DrawLabels();
+        for (int k = 0; k < 12; k++) {
+            d.corner(d.point(5 * k, k == 1 ? 30 : k % 2 * 20));
+        }
+        d.area();
+        // all twelve sides meet y = 10, two of them at one place
+        Due.due("a saw", drawn(d), "S 0 100 0 100 0\nS 10 100 10 100 0\nS 20 100 20 100 0\nS 30 100 30 100 0\n"
+            + "S 40 100 40 100 0\nS 50 100 50 100 0\nS 2 90 8 90 0\nS 13 90 18 90 0\nS 23 90 28 90 0\n"
+            + "S 28 90 33 90 0\nS 38 90 43 90 0\nS 48 90 53 90 0\nS 3 80 7 80 0\n");
+    }
+
     private static void order() {
         DrawLabels d = new DrawLabels();
         for (int[] p : new int[][] {{0, 0}, {10, 0}, {10, 10}, {0, 10}}) {
@@ -366,6 +409,11 @@ public final class DrawingTest {
         Due.due("draw()", d.draw(), 600);
         Due.due("2000 strokes and F", d.count(7), 1401);
         Due.due("the last one told", d.mark(599, 2), 70);
+        d.window(5000, 15000, 0, 20000);
+        Due.due("cut at the left and right", d.draw(), 600);
+        Due.due("as many", d.count(7), 1401);
+        d.window(20001, 30000, 0, 20000);
+        Due.due("nothing is left of it", d.draw(), 1);
     }
 
     private static void marks() {

@@ -138,38 +138,23 @@ public final class LabelsTest {
     }
 
     private static void openAtTheEdges() {
-        DrawLabels d = dotAt(91, 50);
-        d.label(0, 1);
-        d.draw();
-        Due.due("94 .. 99 is open", d.placed(0), 0);
-        d = dotAt(92, 50);
-        d.label(0, 1);
-        d.draw();
-        Due.due("95 .. 100 is not; 94 .. 99 is", d.placed(0), 1);
-        d = dotAt(93, 50);
-        d.label(0, 1);
-        d.draw();
-        Due.due("nor is 95 .. 100; 90 .. 95 is", d.placed(0), 2);
-        d = dotAt(50, 5);
-        d.label(0, 1);
-        d.draw();
-        Due.due("91 .. 99 is open", d.placed(0), 0);
-        d = dotAt(50, 4);
-        d.label(0, 1);
-        d.draw();
-        Due.due("92 .. 100 is not", d.placed(0), 1);
-        d = dotAt(50, 96);
-        d.label(0, 1);
-        d.draw();
-        Due.due("0 .. 8 is open", d.placed(0), 0);
-        d = dotAt(50, 97);
-        d.label(0, 1);
-        d.draw();
-        Due.due("-1 .. 7 is not, nor are 1 to 4", d.placed(0), 5);
-        d = dotAt(99, 97);
-        d.label(0, 8);
-        d.draw();
-        Due.due("48 wide: left of it", d.placed(0), 5);
+        // a DOT's x, y, how many letters, the PLACE that is due
+        int[][] cases = {
+            {91, 50, 1, 0}, // 94 .. 99 is open
+            {92, 50, 1, 1}, // 95 .. 100 is not; 94 .. 99 is
+            {93, 50, 1, 2}, // nor is 95 .. 100; 90 .. 95 is
+            {50, 5, 1, 0},  // 91 .. 99 is open
+            {50, 4, 1, 1},  // 92 .. 100 is not
+            {50, 96, 1, 0}, // 0 .. 8 is open
+            {50, 97, 1, 5}, // -1 .. 7 is not, nor are 1 to 4
+            {99, 97, 8, 5}, // 48 wide: left of it
+        };
+        for (int[] c : cases) {
+            DrawLabels d = dotAt(c[0], c[1]);
+            d.label(0, c[2]);
+            d.draw();
+            Due.due("a label of " + c[2] + " letters at " + c[0] + ", " + c[1], d.placed(0), c[3]);
+        }
     }
 
     private static void costOfDots() {

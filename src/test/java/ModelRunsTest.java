@@ -26,7 +26,24 @@ public final class ModelRunsTest {
         Due.end();
     }
 
+    /** Many labels close to one another, so that they must give way. */
+    private void crowd() {
+        int w = among(24, 90);
+        int h = among(20, 90);
+        same("sheet", new int[] {w, h, 0}, d.sheet(w, h, 0), m.sheet(w, h, 0));
+        same("window", new int[] {0, w, 0, h}, d.window(0, w, 0, h), m.window(0, w, 0, h));
+        for (int k = among(3, 9); k > 0; k--) {
+            int x = among(0, w);
+            int y = among(0, h);
+            same("point", new int[] {x, y}, d.point(x, y), m.point(x, y));
+        }
+        for (int k = among(1, 9); k > 0; k--) object();
+        for (int k = among(2, 8); k > 0; k--) label();
+        drawAndCompare();
+    }
+
     private void run() {
+        if (seed % 2 == 0) crowd();
         int start = random.nextInt(30);
         for (int k = 0; k < start; k++) point();
         for (int k = 0; k < start; k++) object();
