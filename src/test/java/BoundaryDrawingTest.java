@@ -71,7 +71,7 @@ public final class BoundaryDrawingTest {
     }
 
     private static void roundedOnce() {
-        Due.about("3: (whole or a fraction) .. all as fractions, each ROUNDED once");
+        Due.about("Terms 3: (whole or a fraction) .. all as fractions, each ROUNDED once");
         DrawLabels d = Desks.points(-1, 0, 7, 1);
         d.window(0, 1, 0, 1);
         d.object(1, 0, 1, 0);
@@ -99,7 +99,7 @@ public final class BoundaryDrawingTest {
     }
 
     private static void gridNone() {
-        Due.about("4: THE GRID of a step g above 0 (0 at first)");
+        Due.about("Terms 4: THE GRID of a step g above 0 (0 at first)");
         DrawLabels d = new DrawLabels();
         Due.due("at first", Desks.drawn(d), "");
         d.grid(1);
@@ -112,7 +112,7 @@ public final class BoundaryDrawingTest {
     }
 
     private static void gridAtTheSides() {
-        Due.about("4: each multiple of g that is not outside of LEFT .. RIGHT (0 is one, too)");
+        Due.about("Terms 4: each multiple of g that is not outside of LEFT .. RIGHT (0 is one, too)");
         DrawLabels d = new DrawLabels();
         d.grid(10);
         d.window(-10, 10, -10, 10);
@@ -134,7 +134,7 @@ public final class BoundaryDrawingTest {
     }
 
     private static void gridRising() {
-        Due.about("4: rising, from x, BOTTOM to x, TOP; then for each y likewise from LEFT, y to RIGHT, y");
+        Due.about("Terms 4: rising, from x, BOTTOM to x, TOP; then for each y likewise from LEFT, y to RIGHT, y");
         DrawLabels d = new DrawLabels();
         d.sheet(40, 60, 0);
         d.window(-20, 20, -30, 30);
@@ -144,7 +144,7 @@ public final class BoundaryDrawingTest {
     }
 
     private static void areaAtBottomAndTop() {
-        Due.about("4: An AREA: each multiple y of THE HATCH that is not outside of BOTTOM .. TOP, rising");
+        Due.about("Terms 4: An AREA: each multiple y of THE HATCH that is not outside of BOTTOM .. TOP, rising");
         DrawLabels d = new DrawLabels();
         Desks.areaAt(d, 0, 0, 30, 0, 30, 30, 0, 30);
         d.style(0, 2);
@@ -165,7 +165,7 @@ public final class BoundaryDrawingTest {
     }
 
     private static void areaMeetsAtItsEnds() {
-        Due.about("4: its sides meet y, if one end's y is not above y, and the other end's is above it");
+        Due.about("Terms 4: its sides meet y, if one end's y is not above y, and the other end's is above it");
         DrawLabels down = new DrawLabels();
         Desks.areaAt(down, 50, 10, 30, 40, 70, 40);
         Due.due("a tip below: one place; nothing at its upper side", Desks.drawn(down),
@@ -179,7 +179,7 @@ public final class BoundaryDrawingTest {
     }
 
     private static void areaBelowZero() {
-        Due.about("4: multiples below 0, and 0");
+        Due.about("Terms 4: multiples below 0, and 0");
         DrawLabels d = new DrawLabels();
         d.window(-50, 50, -50, 50);
         Desks.areaAt(d, -10, -20, 10, -20, 10, 20, -10, 20);
@@ -189,7 +189,7 @@ public final class BoundaryDrawingTest {
     }
 
     private static void areaWithoutALine() {
-        Due.about("4: no multiple of THE HATCH between its lowest and its highest POINT");
+        Due.about("Terms 4: no multiple of THE HATCH between its lowest and its highest POINT");
         DrawLabels d = new DrawLabels();
         Desks.areaAt(d, 10, 11, 90, 11, 50, 19);
         Due.due("11 .. 19", Desks.drawn(d), "");
@@ -203,7 +203,7 @@ public final class BoundaryDrawingTest {
     }
 
     private static void areaByFractions() {
-        Due.about("4: the places where they do, by x (as fractions, rising), two and two");
+        Due.about("Terms 4: the places where they do, by x (as fractions, rising), two and two");
         DrawLabels d = new DrawLabels();
         d.sheet(400, 400, 0);
         d.window(0, 4, 0, 4);
@@ -213,7 +213,7 @@ public final class BoundaryDrawingTest {
     }
 
     private static void areaOfTwelve() {
-        Due.about("4: AREA of 3 to 12 POINTS: as many STROKES on a line as can be");
+        Due.about("Terms 4: AREA of 3 to 12 POINTS: as many STROKES on a line as can be");
         DrawLabels d = new DrawLabels();
         Desks.areaAt(d, 0, 5, 10, 15, 20, 5, 30, 15, 40, 5, 50, 15, 60, 5, 70, 15, 80, 5, 90, 15, 100, 5, 50, 12);
         // the ten sides up and down meet y = 10 at 5, 15, .. 95; the last two rise to 50, 12 from 100, 5 and from 0, 5
@@ -227,14 +227,19 @@ public final class BoundaryDrawingTest {
     }
 
     private static void areaAtLeftAndRight() {
-        Due.about("4: what lies between both and is not outside of LEFT .. RIGHT, if anything does (be it one place)");
+        Due.about("Terms 4: what lies between both and is not outside of LEFT .. RIGHT, if anything does (be it one place)");
         int[][] spans = {{-20, 0}, {-20, -1}, {100, 120}, {101, 120}, {-10, 110}, {0, 100}, {-1, 1}, {99, 101}};
         String[] due = {"S 0 100 0 100 0\n", "", "S 100 100 100 100 0\n", "", "S 0 100 100 100 0\n", "S 0 100 100 100 0\n",
             "S 0 100 1 100 0\n", "S 99 100 100 100 0\n"};
         for (int k = 0; k < spans.length; k++) {
-            DrawLabels d = new DrawLabels();
-            Desks.areaAt(d, spans[k][0], 0, spans[k][1], 0, spans[k][1], 10, spans[k][0], 10);
-            Due.due(spans[k][0] + " .. " + spans[k][1], Desks.drawn(d), due[k]);
+            for (int right = -301; right <= 301; right += 301) {
+                DrawLabels d = new DrawLabels();
+                d.window(right, right + 100, 0, 100);
+                int from = spans[k][0] + right;
+                int to = spans[k][1] + right;
+                Desks.areaAt(d, from, 0, to, 0, to, 10, from, 10);
+                Due.due(from + " .. " + to, Desks.drawn(d), due[k]);
+            }
         }
         DrawLabels half = new DrawLabels();
         Desks.areaAt(half, -10, -10, -1, -10, 0, 10, -10, 10);
@@ -251,7 +256,7 @@ public final class BoundaryDrawingTest {
     }
 
     private static void areaFallen() {
-        Due.about("4: not those that are FALLEN, or of a HIDDEN KIND");
+        Due.about("Terms 4: not those that are FALLEN, or of a HIDDEN KIND");
         DrawLabels d = Desks.points(0, 0, 40, 0, 0, 40, 40, 40);
         Desks.area(d, 0, 3, 1, 2);
         Due.due("a bow has FALLEN", Desks.drawn(d), "");
@@ -269,7 +274,7 @@ public final class BoundaryDrawingTest {
     }
 
     private static void dotAtTheSides() {
-        Due.about("4: D X Y s: a DOT that THE WINDOW HAS");
+        Due.about("Terms 4: D X Y s: a DOT that THE WINDOW HAS");
         int[][] has = {{0, 0}, {100, 0}, {0, 100}, {100, 100}, {0, 50}, {100, 50}, {50, 0}, {50, 100}};
         for (int[] p : has) {
             Due.due("at " + p[0] + ", " + p[1], one(0, p), "D " + p[0] + " " + (100 - p[1]) + " 0\n");
@@ -281,7 +286,7 @@ public final class BoundaryDrawingTest {
     }
 
     private static void pieceAtTheSides() {
-        Due.about("4: A PIECE: what of it THE WINDOW HAS, if anything (be it one place)");
+        Due.about("Terms 4: A PIECE: what of it THE WINDOW HAS, if anything (be it one place)");
         int[][] pieces = {{-5, 50, 0, 50}, {-5, 50, -1, 50}, {100, 50, 105, 50}, {101, 50, 105, 50}, {50, -5, 50, 0}, {50, -5, 50, -1},
             {50, 100, 50, 105}, {50, 101, 50, 105}, {0, -5, 0, 105}, {-1, -5, -1, 105}, {100, -5, 100, 105}, {101, -5, 101, 105},
             {-5, 0, 105, 0}, {-5, -1, 105, -1}, {-5, 100, 105, 100}, {-5, 101, 105, 101}, {0, 0, 100, 100}, {105, 30, -5, 30}};
@@ -294,7 +299,7 @@ public final class BoundaryDrawingTest {
     }
 
     private static void pieceAtACorner() {
-        Due.about("4: be it one place, a corner of THE WINDOW");
+        Due.about("Terms 4: be it one place, a corner of THE WINDOW");
         int[][] ends = {{-10, 10, 10, -10}, {90, -10, 110, 10}, {90, 110, 110, 90}, {-10, 90, 10, 110}};
         String[] due = {"S 0 100 0 100 0\n", "S 100 100 100 100 0\n", "S 100 0 100 0 0\n", "S 0 0 0 0 0\n"};
         for (int k = 0; k < 4; k++) {
@@ -311,7 +316,7 @@ public final class BoundaryDrawingTest {
     }
 
     private static void lineBeyondItsPoints() {
-        Due.about("4: LINE a b: all through both; from the end that comes first, when one goes the way from a to b");
+        Due.about("Terms 4: LINE a b: all through both; from the end that comes first, when one goes the way from a to b");
         int[][] lines = {{40, 50, 60, 50}, {60, 50, 40, 50}, {150, 50, 140, 50}, {140, 50, 150, 50}, {-9, 50, -8, 50}, {50, 300, 50, 299},
             {50, 299, 50, 300}, {101, 0, 101, 1}, {0, -1, 1, -1}, {150, 150, 151, 151}, {151, 151, 150, 150}};
         String[] due = {"S 0 50 100 50 0\n", "S 100 50 0 50 0\n", "S 100 50 0 50 0\n", "S 0 50 100 50 0\n", "S 0 50 100 50 0\n",
@@ -332,7 +337,7 @@ public final class BoundaryDrawingTest {
     }
 
     private static void rayFromItsStart() {
-        Due.about("4: RAY a b: all from a on through b");
+        Due.about("Terms 4: RAY a b: all from a on through b");
         int[][] rays = {{100, 50, 101, 50}, {101, 50, 102, 50}, {101, 50, 100, 50}, {50, 50, 51, 50}, {0, 0, -1, -1}, {-10, -10, -9, -9},
             {-10, 50, 200, 50}, {-10, 50, -11, 50}, {0, 50, -1, 50}, {50, 100, 50, 101}, {50, 0, 50, -1}, {50, 101, 50, 102},
             {50, -1, 50, -2}, {50, 50, 50, 49}};
@@ -344,7 +349,7 @@ public final class BoundaryDrawingTest {
     }
 
     private static void circleAllOfIt() {
-        Due.about("4: part is 0, if THE WINDOW HAS all of that line, else 1");
+        Due.about("Terms 4: part is 0, if THE WINDOW HAS all of that line, else 1");
         int[][] circles = {{50, 50, 50, 100}, {50, 50, 50, 101}, {50, 40, 10, 40}, {50, 40, 9, 40}, {50, 60, 50, 100}, {50, 60, 50, 101},
             {40, 50, 0, 50}, {40, 50, -1, 50}, {60, 50, 100, 50}, {60, 50, 101, 50}, {0, 50, 10, 50}, {50, 50, 54, 53},
             {-1, 50, -1, 51}, {101, 50, 101, 51}, {50, -1, 51, -1}, {50, 101, 51, 101}};
@@ -357,7 +362,7 @@ public final class BoundaryDrawingTest {
     }
 
     private static void circleFromOutside() {
-        Due.about("4: a CIRCLE of whose line THE WINDOW HAS some place");
+        Due.about("Terms 4: a CIRCLE of whose line THE WINDOW HAS some place");
         int[][] circles = {{-10, 50, 0, 50}, {-10, 50, -1, 50}, {110, 50, 100, 50}, {110, 50, 101, 50}, {50, -10, 50, 0}, {50, -10, 50, -1},
             {50, 110, 50, 100}, {50, 110, 50, 101}, {-3, -4, 2, -4}, {-3, -4, 1, -2}, {103, 104, 103, 109}, {103, 104, 107, 106},
             {-3, 104, -3, 109}, {103, -4, 103, -9}};
@@ -369,7 +374,7 @@ public final class BoundaryDrawingTest {
     }
 
     private static void circleAroundTheWindow() {
-        Due.about("4: none, if all of THE WINDOW is within it");
+        Due.about("Terms 4: none, if all of THE WINDOW is within it");
         // each passes a corner of THE WINDOW that is the farthest one, and then just behind it
         int[][] circles = {{50, 50, 100, 100}, {50, 50, 101, 99}, {20, 30, 100, 100}, {20, 30, 101, 99}, {80, 70, 0, 0}, {80, 70, -1, 1},
             {-10, 50, 100, 100}, {-10, 50, 101, 99}, {50, -10, 100, 100}, {50, -10, 99, 101}, {80, 20, 0, 100}, {80, 20, -1, 99}};
@@ -381,7 +386,7 @@ public final class BoundaryDrawingTest {
     }
 
     private static void radiusRounded() {
-        Due.about("4: the distance of a and b times UP / DOWN, ROUNDED");
+        Due.about("Terms 4: the distance of a and b times UP / DOWN, ROUNDED");
         DrawLabels d = Desks.points(50, 50, 51, 50, 53, 50, 51, 51, 52, 54);
         d.window(0, 200, 0, 200);
         for (int p = 1; p < 5; p++) {
@@ -414,7 +419,7 @@ public final class BoundaryDrawingTest {
     }
 
     private static void angleAtTheSides() {
-        Due.about("4: an ANGLE whose b THE WINDOW HAS");
+        Due.about("Terms 4: an ANGLE whose b THE WINDOW HAS");
         int[][] has = {{0, 0}, {100, 0}, {0, 100}, {100, 100}};
         for (int[] b : has) {
             Due.due("b at a corner", one(5, b[0] + 500, b[1], b[0], b[1], b[0], b[1] + 500), "A " + b[0] + " " + (100 - b[1]) + " 0 2 1\n");
@@ -426,7 +431,7 @@ public final class BoundaryDrawingTest {
     }
 
     private static void angleOpening() {
-        Due.about("4: k: 0 less than right, 1 right, 2 more, 3 both go opposite ways, 4 both go the same way");
+        Due.about("Terms 4: k: 0 less than right, 1 right, 2 more, 3 both go opposite ways, 4 both go the same way");
         int[][] ways = {{-1, 100}, {0, 100}, {-2, 100}, {-100, -1}, {-100, 0}, {-100, -2}, {200, 2}, {200, 3}, {200, 1}, {1, -100}, {2, -100}, {0, -100}};
         String[] due = {"0 2 1", "0 2 0", "0 2 2", "0 4 3", "0 4 2", "0 4 2", "0 0 4", "0 0 0", "0 0 0", "0 6 1", "0 6 0", "0 6 2"};
         for (int k = 0; k < ways.length; k++) {
@@ -436,7 +441,7 @@ public final class BoundaryDrawingTest {
     }
 
     private static void angleOfShortWays() {
-        Due.about("4: k of ways as short as can be");
+        Due.about("Terms 4: k of ways as short as can be");
         int[][] ways = {{1, 0}, {-1, 0}, {0, 1}, {0, -1}, {1, 1}, {-1, 1}, {1, 5}, {-1, 5}};
         String[] due = {"0 4", "4 3", "2 1", "6 1", "1 0", "3 2", "1 0", "2 2"};
         for (int k = 0; k < ways.length; k++) {
@@ -446,7 +451,7 @@ public final class BoundaryDrawingTest {
     }
 
     private static void angleFar() {
-        Due.about("4: k of ways as long as can be");
+        Due.about("Terms 4: k of ways as long as can be");
         DrawLabels d = Desks.points(20000, 20000, -20000, -20000, 20000, 19999, -20000, 20000);
         d.move(0, 100, 100);
         d.move(1, -100, -100);
@@ -462,7 +467,7 @@ public final class BoundaryDrawingTest {
     }
 
     private static void octants() {
-        Due.about("4: OCTANT: a way that parts two eighths is in the later one");
+        Due.about("Terms 4: OCTANT: a way that parts two eighths is in the later one");
         int[][] ways = {{100, 0}, {100, 1}, {100, 99}, {100, 100}, {99, 100}, {1, 100}, {0, 100}, {-1, 100}, {-99, 100}, {-100, 100},
             {-100, 99}, {-100, 1}, {-100, 0}, {-100, -1}, {-100, -99}, {-100, -100}, {-99, -100}, {-1, -100}, {0, -100}, {1, -100},
             {99, -100}, {100, -100}, {100, -99}, {100, -1}};
@@ -486,7 +491,7 @@ public final class BoundaryDrawingTest {
     }
 
     private static void ticksAtTheSides() {
-        Due.about("4: TICKS whose middle (a fraction) THE WINDOW HAS");
+        Due.about("Terms 4: TICKS whose middle (a fraction) THE WINDOW HAS");
         int[][] ends = {{-1, 50, 0, 50}, {-1, 50, 1, 50}, {100, 50, 101, 50}, {99, 50, 101, 50}, {50, -1, 50, 0}, {50, -1, 50, 1},
             {50, 100, 50, 101}, {50, 99, 50, 101}, {0, 0, 1, 1}, {100, 100, 99, 99}, {-400, 50, 500, 50}};
         String[] due = {"", "T 0 50 1 0\n", "", "T 100 50 1 0\n", "", "T 50 100 1 2\n",
@@ -497,7 +502,7 @@ public final class BoundaryDrawingTest {
     }
 
     private static void othersByNumber() {
-        Due.about("4: AREAS by number, then the other OBJECTS by number. Then SOLIDS by number. Then LABELS");
+        Due.about("Terms 4: AREAS by number, then the other OBJECTS by number. Then SOLIDS by number. Then LABELS");
         DrawLabels d = Desks.points(10, 10, 30, 10, 10, 30, 50, 50);
         d.object(0, 3, 0, 0);
         Desks.area(d, 0, 1, 2);

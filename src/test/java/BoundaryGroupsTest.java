@@ -102,7 +102,7 @@ public final class BoundaryGroupsTest {
     }
 
     private static void codeZeroIsTold() {
-        Due.about("7: CODES: 0 done");
+        Due.about("Terms 7: CODES: 0 done");
         for (int call = 0; call < 9; call++) {
             DrawLabels d = Desks.eachKind();
             d.group(0, 8, 1);

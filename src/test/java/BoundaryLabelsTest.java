@@ -102,7 +102,7 @@ public final class BoundaryLabelsTest {
     }
 
     private static void anchorOfAStroke() {
-        Due.about("5: of a PIECE, LINE, RAY (X1 + X2) / 2, (Y1 + Y2) / 2 of its STROKE, rounded down");
+        Due.about("Terms 5: of a PIECE, LINE, RAY (X1 + X2) / 2, (Y1 + Y2) / 2 of its STROKE, rounded down");
         DrawLabels piece = Desks.points(10, 20, 15, 27);
         piece.object(1, 0, 1, 0);
         piece.label(0, 1);
@@ -125,7 +125,7 @@ public final class BoundaryLabelsTest {
     }
 
     private static void anchorOfACircle() {
-        Due.about("5: of a CIRCLE X, Y - r");
+        Due.about("Terms 5: of a CIRCLE X, Y - r");
         DrawLabels d = Desks.points(50, 50, 50, 80);
         d.object(4, 0, 1, 0);
         d.label(0, 2);
@@ -138,7 +138,7 @@ public final class BoundaryLabelsTest {
     }
 
     private static void anchorOfAngleAndTicks() {
-        Due.about("5: of a DOT, ANGLE, TICKS the X, Y of its MARK");
+        Due.about("Terms 5: of a DOT, ANGLE, TICKS the X, Y of its MARK");
         DrawLabels d = Desks.points(20, 30, 41, 31, 60, 20);
         d.object(5, 0, 1, 2);
         d.label(0, 1);
@@ -157,7 +157,7 @@ public final class BoundaryLabelsTest {
     }
 
     private static void anchorOfAnArea() {
-        Due.about("5: of an AREA the sums of X and of Y of its POINTS' places ON THE SHEET, by how many they are, rounded down");
+        Due.about("Terms 5: of an AREA the sums of X and of Y of its POINTS' places ON THE SHEET, by how many they are, rounded down");
         DrawLabels d = new DrawLabels();
         d.hatch(1000);
         d.window(0, 200, 0, 200);
@@ -175,7 +175,7 @@ public final class BoundaryLabelsTest {
     }
 
     private static void anchorOfAnAreaBelowZero() {
-        Due.about("5: rounded down, below 0");
+        Due.about("Terms 5: rounded down, below 0");
         DrawLabels left = new DrawLabels();
         left.hatch(1000);
         Desks.areaAt(left, -20, 50, 5, 50, 14, 80);
@@ -191,7 +191,7 @@ public final class BoundaryLabelsTest {
     }
 
     private static void outWithoutAMark() {
-        Due.about("5: It is OUT, if its OBJECT has no MARK in the DRAWING");
+        Due.about("Terms 5: It is OUT, if its OBJECT has no MARK in the DRAWING");
         DrawLabels d = Desks.points(50, 50, 50, 50, 101, 50, 40, 60);
         d.object(0, 0, 0, 0);
         d.object(0, 2, 0, 0);
@@ -215,7 +215,7 @@ public final class BoundaryLabelsTest {
     }
 
     private static void outOfAnArea() {
-        Due.about("5: (an AREA: if it is FALLEN, or HIDDEN by KIND)");
+        Due.about("Terms 5: (an AREA: if it is FALLEN, or HIDDEN by KIND)");
         DrawLabels d = Desks.points(40, 42, 60, 42, 50, 48, 50, 42);
         Desks.area(d, 0, 1, 2);
         Desks.area(d, 0, 1, 3);
@@ -273,14 +273,14 @@ public final class BoundaryLabelsTest {
     }
 
     private static void openPlaces() {
-        Due.about("5: OPEN, if that is all within 0 .. W - 1, 0 .. H - 1");
+        Due.about("Terms 5: OPEN, if that is all within 0 .. W - 1, 0 .. H - 1");
         openOn(24, 36, 1);
         openOn(40, 24, 2);
         openOn(16, 16, 1);
     }
 
     private static void openOfEightLetters() {
-        Due.about("5: a BOX, w = 6 n wide, 9 high");
+        Due.about("Terms 5: a BOX, w = 6 n wide, 9 high");
         openOn(51, 18, 8);
         openOn(50, 18, 8);
         openOn(48, 21, 8);
@@ -303,7 +303,7 @@ public final class BoundaryLabelsTest {
     }
 
     private static void costOfADot() {
-        Due.about("5: 10 more for each MARK D whose X, Y it takes");
+        Due.about("Terms 5: 10 more for each MARK D whose X, Y it takes");
         for (int x = 9; x <= 18; x++) {
             for (int y = 2; y <= 14; y++) {
                 DrawLabels d = narrow();
@@ -318,7 +318,7 @@ public final class BoundaryLabelsTest {
     }
 
     private static void costOfAStroke() {
-        Due.about("5: 4 more for each MARK S some place of which (on the straight way, fractions too) it takes");
+        Due.about("Terms 5: 4 more for each MARK S some place of which (on the straight way, fractions too) it takes");
         int[][] touching = {{18, 10, 14, 14}, {14, 14, 18, 10}, {17, 9, 15, 14}, {5, 10, 11, 10}, {16, 10, 30, 10}, {12, 6, 14, 9}, {13, 0, 13, 4},
             {13, 16, 13, 12}, {0, 4, 40, 4}, {0, 12, 40, 12}, {11, 0, 11, 16}, {16, 0, 16, 16}, {0, 0, 40, 16}, {9, 6, 13, 2}, {18, 6, 14, 2},
             {9, 10, 13, 14}};
@@ -333,7 +333,7 @@ public final class BoundaryLabelsTest {
     }
 
     private static void costOfAllStrokes() {
-        Due.about("5: 4 more for each MARK S some place of which it takes, whichever way it goes");
+        Due.about("Terms 5: 4 more for each MARK S some place of which it takes, whichever way it goes");
         for (int x1 = 9; x1 <= 18; x1++) {
             for (int y1 = 2; y1 <= 14; y1++) {
                 for (int x2 = 9; x2 <= 18; x2++) {
@@ -375,7 +375,7 @@ public final class BoundaryLabelsTest {
     }
 
     private static void costOfEachMark() {
-        Due.about("5: 4 more for each MARK S: of THE GRID, of an AREA, of an EDGE");
+        Due.about("Terms 5: 4 more for each MARK S: of THE GRID, of an AREA, of an EDGE");
         DrawLabels grid = narrow();
         grid.grid(5);
         // x 15; Y 11, 6
@@ -398,7 +398,7 @@ public final class BoundaryLabelsTest {
     }
 
     private static void costOfOthers() {
-        Due.about("5: THE COST of a PLACE: its number, MARKS D and S alone");
+        Due.about("Terms 5: THE COST of a PLACE: its number, MARKS D and S alone");
         DrawLabels d = narrow();
         Desks.add(d, 13, 8, 14, 9, 15, 8);
         d.object(4, 1, 2, 0);
@@ -417,7 +417,7 @@ public final class BoundaryLabelsTest {
     }
 
     private static void meetBeside() {
-        Due.about("5: Two BOXES MEET, if both take some X, Y: beside one another");
+        Due.about("Terms 5: Two BOXES MEET, if both take some X, Y: beside one another");
         DrawLabels apart = two(Desks.sheet(60, 16), 8, 8, 14, 8);
         // 11 .. 16 and 17 .. 22
         Due.due("placed(0)", apart.placed(0), 0);
@@ -433,7 +433,7 @@ public final class BoundaryLabelsTest {
     }
 
     private static void meetAbove() {
-        Due.about("5: Two BOXES MEET, if both take some X, Y: above one another");
+        Due.about("Terms 5: Two BOXES MEET, if both take some X, Y: above one another");
         DrawLabels apart = two(Desks.sheet(16, 60), 4, 52, 4, 43);
         // 4 .. 12 and 13 .. 21
         Due.due("placed(0)", apart.placed(0), 0);
@@ -448,7 +448,7 @@ public final class BoundaryLabelsTest {
     }
 
     private static void bestFewestOut() {
-        Due.about("5: THE BEST of all ways: the fewest OUT");
+        Due.about("Terms 5: THE BEST of all ways: the fewest OUT");
         DrawLabels d = two(Desks.sheet(60, 16), 12, 8, 8, 8);
         // LABEL 0 costs nothing on 15 .. 20, but that leaves LABEL 1 (11 .. 16) OUT; on 3 .. 8 it takes a DOT
         Due.due("placed(0)", d.placed(0), 4);
@@ -458,7 +458,7 @@ public final class BoundaryLabelsTest {
     }
 
     private static void bestOneOutForTwo() {
-        Due.about("5: the fewest OUT, of these the least sum of COSTS");
+        Due.about("Terms 5: the fewest OUT, of these the least sum of COSTS");
         DrawLabels d = Desks.sheet(50, 16);
         Desks.dots(d, 28, 8, 8, 8, 43, 8, 49, 8, 12, 8);
         d.label(0, 2);
@@ -476,7 +476,7 @@ public final class BoundaryLabelsTest {
     }
 
     private static void bestLeastSum() {
-        Due.about("5: of these the least sum of COSTS");
+        Due.about("Terms 5: of these the least sum of COSTS");
         DrawLabels d = Desks.sheet(60, 16);
         Desks.dots(d, 20, 8, 26, 8);
         d.label(0, 1);
@@ -495,7 +495,7 @@ public final class BoundaryLabelsTest {
     }
 
     private static void bestLeastRow() {
-        Due.about("5: of these the least row, by numbers of LABELS (the first one that differs counts)");
+        Due.about("Terms 5: of these the least row, by numbers of LABELS (the first one that differs counts)");
         DrawLabels d = Desks.sheet(100, 100);
         Desks.dots(d, 50, 50);
         for (int l = 0; l < 4; l++) {
@@ -516,7 +516,7 @@ public final class BoundaryLabelsTest {
     }
 
     private static void bestOutIsEight() {
-        Due.about("5: the least row (8 for OUT)");
+        Due.about("Terms 5: the least row (8 for OUT)");
         DrawLabels d = Desks.sheet(30, 16);
         Desks.dots(d, 15, 8);
         for (int l = 0; l < 4; l++) {
@@ -543,7 +543,7 @@ public final class BoundaryLabelsTest {
     }
 
     private static void sixAreBest() {
-        Due.about("5: if they are 6 or fewer, THE BEST of all ways");
+        Due.about("Terms 5: if they are 6 or fewer, THE BEST of all ways");
         for (int labels = 2; labels <= 6; labels++) {
             DrawLabels d = row(labels);
             Due.due(labels + ": placed(0)", d.placed(0), 4);
@@ -560,7 +560,7 @@ public final class BoundaryLabelsTest {
     }
 
     private static void sevenGoByRounds() {
-        Due.about("5: Else by ROUNDS: at first all are OUT; each takes, as the others are then, the OPEN PLACE of least COST");
+        Due.about("Terms 5: Else by ROUNDS: at first all are OUT; each takes, as the others are then, the OPEN PLACE of least COST");
         DrawLabels d = row(7);
         Due.due("placed(0)", d.placed(0), 0);
         Due.due("placed(1)", d.placed(1), 8);
@@ -573,7 +573,7 @@ public final class BoundaryLabelsTest {
     }
 
     private static void thoseWithAMarkCount() {
-        Due.about("5: Of those whose OBJECT has a MARK: if they are 6 or fewer");
+        Due.about("Terms 5: Of those whose OBJECT has a MARK: if they are 6 or fewer");
         DrawLabels d = Desks.sheet(200, 16);
         Desks.dots(d, 201, 8, 12, 8, 8, 8, 50, 8, 70, 8, 90, 8, 110, 8);
         d.label(0, 1);
@@ -613,7 +613,7 @@ public final class BoundaryLabelsTest {
     }
 
     private static void roundsLeastCost() {
-        Due.about("5: the OPEN PLACE of least COST (of these the least) on which it MEETS none of them");
+        Due.about("Terms 5: the OPEN PLACE of least COST (of these the least) on which it MEETS none of them");
         Due.due("0 costs 0", seventh().placed(6), 0);
         Due.due("0 and 4 cost 4 each", seventh(20).placed(6), 0);
         Due.due("0 costs 8, 4 costs 4", seventh(20, 21).placed(6), 4);
@@ -622,7 +622,7 @@ public final class BoundaryLabelsTest {
     }
 
     private static void roundsEnd() {
-        Due.about("5: It ends behind the ROUND in which none changed");
+        Due.about("Terms 5: It ends behind the ROUND in which none changed");
         Due.due("nothing changes in the second one", seventh().count(11), 2);
         DrawLabels d = Desks.sheet(16, 16);
         Desks.dots(d, 8, 8);
@@ -648,7 +648,7 @@ public final class BoundaryLabelsTest {
     }
 
     private static void wordsByNumber() {
-        Due.about("5: W left top n l: for each that is PLACED, by numbers l");
+        Due.about("Terms 5: W left top n l: for each that is PLACED, by numbers l");
         DrawLabels d = Desks.sheet(100, 16);
         Desks.dots(d, 70, 8, 101, 8, 20, 8);
         d.label(0, 3);

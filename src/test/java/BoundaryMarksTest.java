@@ -7,6 +7,7 @@ public final class BoundaryMarksTest {
         noScale();
         inPlaceOfTheOneBefore();
         theSameAgain();
+        toAndFroAgain();
         ofAllAsItIsNow();
         sixHundredMarks();
         lostOfEachKind();
@@ -101,6 +102,39 @@ public final class BoundaryMarksTest {
         Due.due("behind one without a SCALE", Due.text(d), first);
     }
 
+    /** LABELS that are too wide, or have no room, at one TICK or at the other. */
+    private static DrawLabels toAndFro() {
+        DrawLabels d = Desks.sheet(60, 30);
+        Desks.dots(d, 10, 15, 20, 15, 50, 15, 30, 10);
+        d.move(0, 10, 0);
+        d.move(2, 20, 0);
+        d.move(3, 0, 10);
+        d.label(0, 3);
+        d.label(1, 8);
+        d.label(2, 2);
+        d.label(3, 1);
+        d.label(3, 4);
+        return d;
+    }
+
+    private static void toAndFroAgain() {
+        Due.about("27: A DRAWING of all as it is now, whatever was drawn before");
+        String[] alone = new String[2];
+        for (int t = 0; t < 2; t++) {
+            DrawLabels d = toAndFro();
+            d.tick(t);
+            d.draw();
+            alone[t] = Due.text(d);
+        }
+        Due.due("they differ", alone[0].equals(alone[1]) ? 1 : 0, 0);
+        DrawLabels d = toAndFro();
+        for (int k = 0; k < 6; k++) {
+            d.tick(k % 2);
+            d.draw();
+            Due.due("drawing " + k, Due.text(d), alone[k % 2]);
+        }
+    }
+
     private static void ofAllAsItIsNow() {
         Due.about("27: A DRAWING of all as it is now");
         DrawLabels d = Desks.points(10, 20);
@@ -136,18 +170,18 @@ public final class BoundaryMarksTest {
     }
 
     private static void sixHundredMarks() {
-        Due.about("4: 600 at most; those behind are LOST");
+        Due.about("Terms 4: 600 at most; those behind are LOST");
         told(gridOf(299, 299), 599, 0);
         told(gridOf(299, 300), 600, 0);
         told(gridOf(300, 300), 600, 1);
-        Due.about("4: 600 at most, with STROKES of one way alone");
+        Due.about("Terms 4: 600 at most, with STROKES of one way alone");
         told(gridOf(597, 2), 600, 0);
         told(gridOf(598, 2), 600, 1);
         told(gridOf(599, 2), 600, 2);
         told(gridOf(600, 2), 600, 3);
         told(gridOf(2, 597), 600, 0);
         told(gridOf(2, 598), 600, 1);
-        Due.about("4: LOST: counted");
+        Due.about("Terms 4: LOST: counted");
         told(gridOf(40001, 40001), 600, 79403);
         DrawLabels most = new DrawLabels();
         most.window(-40000, 40000, -40000, 40000);
@@ -156,7 +190,7 @@ public final class BoundaryMarksTest {
     }
 
     private static void lostOfEachKind() {
-        Due.about("4: LOST: counted, one of each KIND");
+        Due.about("Terms 4: LOST: counted, one of each KIND");
         for (int kind = 0; kind < 8; kind++) {
             DrawLabels d = gridOf(299, 300);
             Desks.add(d, 10, 10, 13, 14, 20, 10);
@@ -176,7 +210,7 @@ public final class BoundaryMarksTest {
     }
 
     private static void lostEdges() {
-        Due.about("4: LOST: counted, EDGES");
+        Due.about("Terms 4: LOST: counted, EDGES");
         DrawLabels d = gridOf(299, 299);
         d.point(10, 10);
         d.solid(0, 1);
@@ -191,7 +225,7 @@ public final class BoundaryMarksTest {
     }
 
     private static void lostInTheMiddleOfAnArea() {
-        Due.about("4: LOST: counted, STROKES of an AREA");
+        Due.about("Terms 4: LOST: counted, STROKES of an AREA");
         int[][] cases = {{5990, 0}, {5991, 1}, {6000, 1}, {6001, 2}, {19990, 1400}};
         for (int[] c : cases) {
             DrawLabels d = new DrawLabels();
@@ -214,7 +248,7 @@ public final class BoundaryMarksTest {
     }
 
     private static void lostOfADentedArea() {
-        Due.about("4: LOST: counted, two STROKES of an AREA on a line");
+        Due.about("Terms 4: LOST: counted, two STROKES of an AREA on a line");
         DrawLabels d = new DrawLabels();
         d.window(0, 5000, 0, 5000);
         Desks.areaAt(d, 0, 0, 100, 0, 100, 5000, 90, 5000, 90, 10, 10, 10, 10, 5000, 0, 5000);
@@ -232,7 +266,7 @@ public final class BoundaryMarksTest {
     }
 
     private static void lostOfAnAreaThatIsCut() {
-        Due.about("4: LOST: counted, STROKES of an AREA that THE WINDOW HAS in part");
+        Due.about("Terms 4: LOST: counted, STROKES of an AREA that THE WINDOW HAS in part");
         DrawLabels leaning = new DrawLabels();
         leaning.window(0, 8000, 0, 10000);
         Desks.areaAt(leaning, 0, 0, 100, 0, 10100, 10000, 10000, 10000);
@@ -248,10 +282,14 @@ public final class BoundaryMarksTest {
         Desks.areaAt(within, 100, 100, 200, 50, 250, 7000, 120, 6500);
         // 50 .. 6990
         told(within, 600, 1 + 695 - 600);
+        DrawLabels turned = new DrawLabels();
+        turned.window(0, 8000, 0, 8000);
+        Desks.areaAt(turned, 120, 6500, 100, 100, 200, 50, 250, 7000);
+        told(turned, 600, 1 + 695 - 600);
     }
 
     private static void lostIsNotTold() {
-        Due.about("4: nothing else is told of them");
+        Due.about("Terms 4: nothing else is told of them");
         DrawLabels d = gridOf(299, 300);
         d.draw();
         int octets = d.count(8);
@@ -265,14 +303,14 @@ public final class BoundaryMarksTest {
     }
 
     private static void lostCountsAsDrawn() {
-        Due.about("4: they count as drawn");
+        Due.about("Terms 4: they count as drawn");
         DrawLabels d = gridOf(400, 400);
         Desks.dots(d, 200, 200);
         d.label(0, 1);
         Due.due("draw()", d.draw(), 600);
         Due.due("the LABEL of a LOST DOT is placed", d.placed(0) < 8 ? 1 : 0, 1);
         Due.due("count(9)", d.count(9), 0);
-        Due.about("5: (MARKS that are LOST do not count here.)");
+        Due.about("Terms 5: (MARKS that are LOST do not count here.)");
         DrawLabels few = gridOf(299, 299);
         Desks.dots(few, 200, 200);
         few.label(0, 1);
@@ -292,7 +330,7 @@ public final class BoundaryMarksTest {
     }
 
     private static void lostLabel() {
-        Due.about("4: a LABEL whose W is LOST is PLACED");
+        Due.about("Terms 4: a LABEL whose W is LOST is PLACED");
         DrawLabels d = gridOf(299, 299);
         Desks.dots(d, 200, 200);
         d.label(0, 1);
@@ -408,7 +446,7 @@ public final class BoundaryMarksTest {
     }
 
     private static void octetsOfNumbers() {
-        Due.about("6: each number behind a blank (32), with - in front if it is below 0, then 10");
+        Due.about("Terms 6: each number behind a blank (32), with - in front if it is below 0, then 10");
         DrawLabels d = Desks.points(-20000, 20000, 0, 100, -9, -1, 0, 0, -10, 110, 0, 105);
         d.sheet(16, 16, 0);
         d.window(0, 16, 0, 16);

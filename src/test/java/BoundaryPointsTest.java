@@ -273,7 +273,7 @@ public final class BoundaryPointsTest {
             Due.due("c of KIND " + kind, d.object(kind, 0, 1, kind % 2 == 0 ? MOST : -1), kind);
         }
         Due.due("c of TICKS is no POINT", d.object(6, 0, 1, 3), 5);
-        Due.about("2: POINTS (perhaps the same one twice)");
+        Due.about("Terms 2: POINTS (perhaps the same one twice)");
         for (int kind = 1; kind <= 6; kind++) {
             Due.due("one POINT for all of KIND " + kind, d.object(kind, 1, 1, 1), 5 + kind);
         }

@@ -373,7 +373,7 @@ public final class BoundarySolidsTest {
     }
 
     private static void edgeAtOnePlace() {
-        Due.about("4: Each EDGE whose ends are at two places");
+        Due.about("Terms 4: Each EDGE whose ends are at two places");
         DrawLabels d = solid(1, 0, 0, 0, 0, 0, 50, 10, 0, 0, 0, 10, 50);
         d.face(0, 3, 0x210);
         d.face(0, 3, 0x310);
@@ -387,7 +387,7 @@ public final class BoundarySolidsTest {
     }
 
     private static void vertexPlaces() {
-        Due.about("4: a VERTEX is at X0 + m p, Y0 + m q, where X0, Y0 is the POINT's place now");
+        Due.about("Terms 4: a VERTEX is at X0 + m p, Y0 + m q, where X0, Y0 is the POINT's place now");
         // VERTICES 0, 0, 0; 3, 5, 7; 1, 1, 1: N is (-2, 4, -2); in VIEW 4 the first and the third are at one place
         String[] due = {"S 50 50 53 45 1\nS 50 50 51 49 1\nS 53 45 51 49 1\n",
             "S 50 50 53 57 0\nS 50 50 51 51 0\nS 53 57 51 51 0\n",
@@ -409,7 +409,7 @@ public final class BoundarySolidsTest {
     }
 
     private static void greatest() {
-        Due.about("4: m times as great (1 .. 50), VERTICES to 100: the farthest places");
+        Due.about("Terms 4: m times as great (1 .. 50), VERTICES to 100: the farthest places");
         DrawLabels d = Desks.points(20000, 20000);
         d.move(0, 100, 100);
         d.tick(100);
@@ -429,7 +429,7 @@ public final class BoundarySolidsTest {
     }
 
     private static void cutByTheWindow() {
-        Due.about("4: a STROKE of what THE WINDOW HAS of the PIECE from the lesser VERTEX to the greater");
+        Due.about("Terms 4: a STROKE of what THE WINDOW HAS of the PIECE from the lesser VERTEX to the greater");
         DrawLabels d = solid(1, 80, 80, 0, -20, -20, 0, 80, -20, 0);
         d.face(0, 3, 0x012);
         // 0 to 1 is cut at 0, 0; 0 to 2 at 80, 0; 1 to 2 is below THE WINDOW

@@ -8,6 +8,7 @@ public final class BoundaryWindowTest {
         windowInOrder();
         fitNone();
         fitLeast();
+        fitThoseOfTheKind();
         fitFallen();
         fitHidden();
         fitNow();
@@ -112,6 +113,21 @@ public final class BoundaryWindowTest {
         sides(d, -500, 500, -500, 500);
     }
 
+    private static void fitThoseOfTheKind() {
+        Due.about("14: all POINTS of all OBJECTS, and no other");
+        int[][] due = {{1, 1, 2, 2}, {1, 3, 2, 4}, {1, 3, 2, 4}, {1, 3, 2, 4}, {1, 3, 2, 4}, {1, 7, 2, 8}, {1, 3, 2, 4}};
+        for (int kind = 0; kind <= 6; kind++) {
+            DrawLabels d = Desks.points(-900, 900, 1, 2, 3, 4, 7, 8);
+            d.object(kind, 1, 2, 3);
+            Due.due("fit() of KIND " + kind, d.fit(), 1);
+            sides(d, due[kind][0], due[kind][1], due[kind][2], due[kind][3]);
+        }
+        DrawLabels d = Desks.points(-900, 900, 1, 2, 3, 4, 7, 8);
+        Desks.area(d, 3, 2, 1);
+        Due.due("fit() of an AREA", d.fit(), 1);
+        sides(d, 1, 7, 2, 8);
+    }
+
     private static void fitFallen() {
         Due.about("14: (be they FALLEN)");
         DrawLabels d = Desks.points(3, 4, 20, 30, 40, 30, 30, 30);
@@ -192,12 +208,12 @@ public final class BoundaryWindowTest {
         Due.due("DOWN", d.scale(false), 50);
         Due.due("sheet(100, 100, 0)", d.sheet(100, 100, 0), 1);
         Due.due("UP", d.scale(true), 1);
-        Due.about("3: (W - 2 m) / (RIGHT - LEFT) and (H - 2 m) / (TOP - BOTTOM)");
+        Due.about("Terms 3: (W - 2 m) / (RIGHT - LEFT) and (H - 2 m) / (TOP - BOTTOM)");
         d.sheet(100, 400, 7);
         scale(d, 43, 50);
         d.sheet(400, 100, 7);
         scale(d, 43, 50);
-        Due.about("3: ON THE SHEET about its middle, whatever THE MARGIN is");
+        Due.about("Terms 3: ON THE SHEET about its middle, whatever THE MARGIN is");
         d.sheet(100, 100, 5);
         Desks.dots(d, 0, 0, 100, 100);
         Due.due("the corners of THE WINDOW", Desks.drawn(d), "D 5 95 0\nD 95 5 0\n");

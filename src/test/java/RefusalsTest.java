@@ -54,7 +54,7 @@ public final class RefusalsTest {
 
     /** The first number of a state is CODE, which the call may change. */
     private static void checkCode(Refused r) {
-        Due.about("7: A call with a CODE above 0 answers 0 and changes nothing");
+        Due.about("Terms 7: A call with a CODE above 0 answers 0 and changes nothing");
         DrawLabels d = desk();
         DrawLabels same = desk();
         Due.due(r.words, r.call.on(d), 0);
@@ -305,7 +305,7 @@ public final class RefusalsTest {
     }
 
     private static void noScale() {
-        Due.about("7: A call with CODE 6 answers 0 and changes nothing");
+        Due.about("Terms 7: A call with CODE 6 answers 0 and changes nothing");
         DrawLabels d = desk();
         DrawLabels same = desk();
         d.window(5, 5, 5, 5);
