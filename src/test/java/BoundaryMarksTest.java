@@ -7,7 +7,7 @@ public final class BoundaryMarksTest {
         noScale();
         inPlaceOfTheOneBefore();
         theSameAgain();
-        toAndFroAgain();
+        whateverWasDrawnBefore();
         ofAllAsItIsNow();
         sixHundredMarks();
         lostOfEachKind();
@@ -102,36 +102,76 @@ public final class BoundaryMarksTest {
         Due.due("behind one without a SCALE", Due.text(d), first);
     }
 
-    /** LABELS that are too wide, or have no room, at one TICK or at the other. */
-    private static DrawLabels toAndFro() {
-        DrawLabels d = Desks.sheet(60, 30);
-        Desks.dots(d, 10, 15, 20, 15, 50, 15, 30, 10);
+    /** Six LABELS that have no room for all; at THE TICK 1 the DOT of the last two is outside. */
+    private static DrawLabels crowd() {
+        DrawLabels d = new DrawLabels();
+        Desks.dots(d, 10, 15, 20, 15, 30, 10, 50, 15);
         d.move(0, 10, 0);
-        d.move(2, 20, 0);
-        d.move(3, 0, 10);
-        d.label(0, 3);
-        d.label(1, 8);
-        d.label(2, 2);
-        d.label(3, 1);
-        d.label(3, 4);
+        d.move(3, 70, 0);
+        int[][] labels = {{0, 3}, {1, 8}, {2, 1}, {2, 4}, {3, 8}, {3, 2}};
+        for (int[] l : labels) {
+            d.label(l[0], l[1]);
+        }
         return d;
     }
 
-    private static void toAndFroAgain() {
-        Due.about("27: A DRAWING of all as it is now, whatever was drawn before");
-        String[] alone = new String[2];
-        for (int t = 0; t < 2; t++) {
-            DrawLabels d = toAndFro();
-            d.tick(t);
-            d.draw();
-            alone[t] = Due.text(d);
+    /** Three LABELS that have room on PLACE 0, or, where PIECES are seen, on PLACE 4; at THE TICK 1 the last DOT is outside. */
+    private static DrawLabels roomy() {
+        DrawLabels d = new DrawLabels();
+        Desks.dots(d, 15, 15, 35, 15, 51, 15);
+        d.move(2, 70, 0);
+        for (int o = 0; o < 3; o++) {
+            d.label(o, 1);
         }
-        Due.due("they differ", alone[0].equals(alone[1]) ? 1 : 0, 0);
-        DrawLabels d = toAndFro();
-        for (int k = 0; k < 6; k++) {
-            d.tick(k % 2);
-            d.draw();
-            Due.due("drawing " + k, Due.text(d), alone[k % 2]);
+        int[] strokes = {19, 20, 39, 40, 55, 56};
+        for (int x : strokes) {
+            int p = d.point(x, 0);
+            d.point(x, 30);
+            d.object(1, p, p + 1, 0);
+        }
+        return d;
+    }
+
+    private static final int STATES = 8;
+
+    private static void putInto(DrawLabels d, int state) {
+        d.sheet(60, 30, 0);
+        d.window(0, 60, 0, 30);
+        d.grid(state == 1 ? 3 : 0);
+        d.tick(state == 3 ? 1 : 0);
+        d.hide(0, state == 4);
+        d.hide(1, state != 7);
+        if (state == 2) {
+            d.sheet(16, 16, 0);
+        } else if (state == 5) {
+            d.sheet(400, 400, 0);
+        } else if (state == 6) {
+            d.window(3, 3, 3, 3);
+        }
+    }
+
+    private static String told(DrawLabels d) {
+        return d.draw() + " " + d.count(9) + " " + d.count(10) + " " + d.count(11) + "\n" + Due.text(d);
+    }
+
+    private static void whateverWasDrawnBefore() {
+        Due.about("27: A DRAWING of all as it is now, in place of the one before");
+        for (int desk = 0; desk < 2; desk++) {
+            String[] alone = new String[STATES];
+            for (int state = 0; state < STATES; state++) {
+                DrawLabels d = desk == 0 ? crowd() : roomy();
+                putInto(d, state);
+                alone[state] = told(d);
+            }
+            for (int before = 0; before < STATES; before++) {
+                for (int state = 0; state < STATES; state++) {
+                    DrawLabels d = desk == 0 ? crowd() : roomy();
+                    putInto(d, before);
+                    d.draw();
+                    putInto(d, state);
+                    Due.due("drawing " + state + " behind " + before, told(d), alone[state]);
+                }
+            }
         }
     }
 

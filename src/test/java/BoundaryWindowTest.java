@@ -370,6 +370,11 @@ public final class BoundaryWindowTest {
         Due.due("it is not rounded", d.single(3, 0), 1.0f / 3.0f);
         Due.due("nor is Y", d.single(3, 1), 298.0f / 3.0f);
         Due.due("below above 0", d.single(2, 0), -50.0f / 3.0f);
+        d.sheet(17, 18, 0);
+        d.window(0, 3, 0, 3);
+        // 9 - (2 - 3 / 2) 17 / 3: 37 / 6, which no number divides
+        Due.due("in least terms as it is", d.single(3, 1), 37.0f / 6.0f);
+        d.sheet(100, 100, 0);
         d.window(0, 1, 0, 1);
         d.move(3, 0, 100);
         d.tick(100);
