@@ -328,7 +328,14 @@ public final class BoundaryDrawingTest {
         far.object(2, 0, 1, 0);
         far.object(3, 0, 1, 0);
         far.window(39999, 40000, 39999, 40000);
-        Due.due("as far as can be from its POINTS", Desks.drawn(far), "S 0 100 100 0 0\nS 0 100 100 0 0\n");
+        Due.due("as far as can be from POINTS that stand", Desks.drawn(far), "S 0 100 100 0 0\nS 0 100 100 0 0\n");
+        far.move(0, -100, -100);
+        far.move(1, -100, -100);
+        far.tick(100);
+        Due.due("as far as can be from POINTS that went on", Desks.drawn(far), "S 0 100 100 0 0\nS 0 100 100 0 0\n");
+        far.move(0, -99, -99);
+        far.move(1, -100, -100);
+        Due.due("behind them a RAY is not there", Desks.drawn(far), "S 100 0 0 100 0\n");
         DrawLabels steep = Desks.points(-20000, -20000, -19999, 20000);
         steep.object(2, 0, 1, 0);
         steep.window(-20000, -19999, -40000, 40000);
